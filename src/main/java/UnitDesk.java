@@ -93,24 +93,21 @@ public final class UnitDesk {
     }
 
     public void sign(int function, int parameters, int types, boolean bool) throws IllegalArgumentException {
-        if (!isFunction(function) || parameters < 0 || parameters > MOST_PARAMETERS) {
+        requireFunction(function);
+        if (parameters < 0 || parameters > MOST_PARAMETERS) {
             throw new IllegalArgumentException();
         }
         signatures[function] = Signature.of(parameters, types, bool);
     }
 
     public void drop(int function) throws IllegalArgumentException {
-        if (!isFunction(function)) {
-            throw new IllegalArgumentException();
-        }
+        requireFunction(function);
         signatures[function] = Signature.ABSENT;
         texts[function].length = 0;
     }
 
     public boolean token(int function, int token) throws IllegalArgumentException, IllegalStateException {
-        if (!isFunction(function)) {
-            throw new IllegalArgumentException();
-        }
+        requireFunction(function);
         if (signatures[function] == Signature.ABSENT) {
             throw new IllegalStateException();
         }
@@ -118,9 +115,7 @@ public final class UnitDesk {
     }
 
     public void edit(int function, int k, int token) throws IllegalArgumentException, NoSuchElementException {
-        if (!isFunction(function)) {
-            throw new IllegalArgumentException();
-        }
+        requireFunction(function);
         if (!texts[function].has(k)) {
             throw new NoSuchElementException();
         }
@@ -128,9 +123,7 @@ public final class UnitDesk {
     }
 
     public int wipe(int function) throws IllegalArgumentException {
-        if (!isFunction(function)) {
-            throw new IllegalArgumentException();
-        }
+        requireFunction(function);
         int had = texts[function].length;
         texts[function].length = 0;
         return had;
@@ -157,9 +150,7 @@ public final class UnitDesk {
     }
 
     public int look(int function, int what) throws IllegalArgumentException {
-        if (!isFunction(function)) {
-            throw new IllegalArgumentException();
-        }
+        requireFunction(function);
         switch (what) {
             case 0:
                 return faultKinds[function];
@@ -205,6 +196,12 @@ public final class UnitDesk {
 
     private static boolean isFunction(int function) {
         return function >= 0 && function < FUNCTIONS;
+    }
+
+    private static void requireFunction(int function) {
+        if (!isFunction(function)) {
+            throw new IllegalArgumentException();
+        }
     }
 
     private void renew(int f) {
