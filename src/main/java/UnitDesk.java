@@ -339,8 +339,11 @@ public final class UnitDesk {
         }
 
         void put(int operation, int operand) {
-            put(operation);
-            put(operand);
+            if (length + 1 < CODE_ROOM) {
+                code[length] = operation;
+                code[length + 1] = operand;
+                length += 2;
+            }
         }
 
         void setOperand(int operationAt, int operand) {

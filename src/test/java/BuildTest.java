@@ -19,34 +19,27 @@ public final class BuildTest {
         Check.end();
     }
 
-    private static UnitDesk one(int parameters, int types, boolean bool, int... tokens) {
-        UnitDesk desk = new UnitDesk();
-        desk.sign(0, parameters, types, bool);
-        Check.text(desk, 0, tokens);
-        return desk;
-    }
-
     private static void code(String what, UnitDesk desk, int... words) {
         Check.due(what + ": build()", desk.build(), words.length);
         Check.image(what, desk, words);
     }
 
     private static void codes() {
-        code("number", one(0, 0, false, 142), 0, 42, 10, 0);
-        code("greatest number", one(0, 0, false, Integer.MAX_VALUE), 0, Integer.MAX_VALUE - 100, 10, 0);
-        code("TRUE", one(0, 0, true, Check.TRUE), 0, 1, 10, 0);
-        code("FALSE", one(1, 0, true, Check.FALSE), 0, 0, 10, 1);
-        code("parameter", one(3, 0, false, 2), 1, 2, 10, 3);
-        code("+", one(2, 0, false, Check.PLUS, 0, 1), 1, 0, 1, 1, 2, 10, 2);
-        code("-", one(2, 0, false, Check.MINUS, 0, 1), 1, 0, 1, 1, 3, 10, 2);
-        code("*", one(2, 0, false, Check.TIMES, 0, 1), 1, 0, 1, 1, 4, 10, 2);
-        code("<", one(2, 0, true, Check.LESS, 0, 1), 1, 0, 1, 1, 5, 10, 2);
-        code("=", one(2, 0, true, Check.EQUAL, 0, 1), 1, 0, 1, 1, 6, 10, 2);
-        code("IF", one(1, 1, false, Check.IF, 0, Check.PLUS, 101, 102, 103),
+        code("number", Desks.one(0, 0, false, 142), 0, 42, 10, 0);
+        code("greatest number", Desks.one(0, 0, false, Integer.MAX_VALUE), 0, Integer.MAX_VALUE - 100, 10, 0);
+        code("TRUE", Desks.one(0, 0, true, Check.TRUE), 0, 1, 10, 0);
+        code("FALSE", Desks.one(1, 0, true, Check.FALSE), 0, 0, 10, 1);
+        code("parameter", Desks.one(3, 0, false, 2), 1, 2, 10, 3);
+        code("+", Desks.one(2, 0, false, Check.PLUS, 0, 1), 1, 0, 1, 1, 2, 10, 2);
+        code("-", Desks.one(2, 0, false, Check.MINUS, 0, 1), 1, 0, 1, 1, 3, 10, 2);
+        code("*", Desks.one(2, 0, false, Check.TIMES, 0, 1), 1, 0, 1, 1, 4, 10, 2);
+        code("<", Desks.one(2, 0, true, Check.LESS, 0, 1), 1, 0, 1, 1, 5, 10, 2);
+        code("=", Desks.one(2, 0, true, Check.EQUAL, 0, 1), 1, 0, 1, 1, 6, 10, 2);
+        code("IF", Desks.one(1, 1, false, Check.IF, 0, Check.PLUS, 101, 102, 103),
                 1, 0, 7, 7, 0, 1, 0, 2, 2, 8, 2, 0, 3, 10, 1);
-        code("IF in IF", one(1, 1, true, Check.IF, Check.IF, 0, 0, 0, Check.IF, 0, 0, 0, Check.LESS, 100, 101),
+        code("IF in IF", Desks.one(1, 1, true, Check.IF, Check.IF, 0, 0, 0, Check.IF, 0, 0, 0, Check.LESS, 100, 101),
                 1, 0, 7, 4, 1, 0, 8, 2, 1, 0, 7, 12, 1, 0, 7, 4, 1, 0, 8, 2, 1, 0, 8, 5, 0, 0, 0, 1, 5, 10, 1);
-        code("CALL of itself", one(2, 1, false, Check.call(0), Check.TRUE, 1), 0, 1, 1, 1, 9, 0, 10, 2);
+        code("CALL of itself", Desks.one(2, 1, false, Check.call(0), Check.TRUE, 1), 0, 1, 1, 1, 9, 0, 10, 2);
     }
 
     private static void addresses() {
@@ -70,7 +63,7 @@ public final class BuildTest {
     }
 
     private static void reuseByText() {
-        UnitDesk desk = one(1, 0, false, 0);
+        UnitDesk desk = Desks.one(1, 0, false, 0);
         desk.build();
         Check.counts("first", desk, 0, 1, 0, 0, 1);
         desk.build();
@@ -91,7 +84,7 @@ public final class BuildTest {
     }
 
     private static void reuseBySignature() {
-        UnitDesk desk = one(1, 0, false, 101);
+        UnitDesk desk = Desks.one(1, 0, false, 101);
         desk.build();
         desk.sign(0, 2, 0, false);
         desk.build();
@@ -110,7 +103,7 @@ public final class BuildTest {
     }
 
     private static void reuseByCalledSignature() {
-        UnitDesk desk = one(0, 0, false, Check.PLUS, 100, Check.call(7), 101);
+        UnitDesk desk = Desks.one(0, 0, false, Check.PLUS, 100, Check.call(7), 101);
         desk.sign(7, 1, 0, false);
         Check.text(desk, 7, 105);
         desk.sign(2, 0, 0, true);
@@ -148,7 +141,7 @@ public final class BuildTest {
     }
 
     private static void threeUnits() {
-        UnitDesk desk = one(0, 0, false);
+        UnitDesk desk = Desks.one(0, 0, false);
         number(desk, 1, 2, 1);
         number(desk, 2, 2, 2);
         number(desk, 3, 2, 3);
@@ -162,7 +155,7 @@ public final class BuildTest {
     }
 
     private static void usedIsLatest() {
-        UnitDesk desk = one(0, 0, false);
+        UnitDesk desk = Desks.one(0, 0, false);
         number(desk, 1, 2, 1);
         number(desk, 2, 2, 2);
         number(desk, 3, 2, 3);
@@ -177,7 +170,7 @@ public final class BuildTest {
     }
 
     private static void brokenKeepsUnits() {
-        UnitDesk desk = one(0, 0, false);
+        UnitDesk desk = Desks.one(0, 0, false);
         number(desk, 1, 2, 1);
         number(desk, 2, 2, 2);
         number(desk, 3, 2, 3);
@@ -197,7 +190,7 @@ public final class BuildTest {
 
     /** A function's unit is used in a build although another function breaks it. */
     private static void brokenStillUses() {
-        UnitDesk desk = one(0, 0, false);
+        UnitDesk desk = Desks.one(0, 0, false);
         number(desk, 1, 2, 1);
         number(desk, 2, 2, 2);
         number(desk, 3, 2, 3);
@@ -290,7 +283,7 @@ public final class BuildTest {
     }
 
     private static void imageStays() {
-        UnitDesk desk = one(1, 0, false, 0);
+        UnitDesk desk = Desks.one(1, 0, false, 0);
         desk.sign(1, 0, 0, false);
         Check.text(desk, 1, Check.call(0), 107);
         code("at first", desk, 1, 0, 10, 1, 0, 7, 9, 0, 10, 0);
@@ -327,7 +320,7 @@ public final class BuildTest {
     }
 
     private static void wrongAsks() {
-        UnitDesk desk = one(0, 0, false, 100);
+        UnitDesk desk = Desks.one(0, 0, false, 100);
         desk.build();
         for (int what : new int[] {-1, 5, Integer.MIN_VALUE, Integer.MAX_VALUE}) {
             Check.dueThrow("count(" + what + ")", NoSuchElementException.class, () -> desk.count(what));

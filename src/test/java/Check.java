@@ -1,3 +1,5 @@
+import java.util.ArrayList;
+import java.util.List;
 import java.util.function.IntSupplier;
 
 /** What the tests share: it counts the answers that are not as due. */
@@ -11,9 +13,29 @@ final class Check {
     static final int TRUE = 9;
     static final int FALSE = 10;
 
+    /** None of them is a function, though some would be if bits were cut off. */
+    static final int[] NO_FUNCTIONS = {-1, 8, -8, 15, 256, 65536, Integer.MIN_VALUE, Integer.MAX_VALUE};
+
     private static int wrong = 0;
+    private static String sentence = "";
 
     private Check() {
+    }
+
+    /** The test of one sentence of the document; its words stand in front of every answer that is not as due. */
+    static void sentence(String words, Runnable test) {
+        sentence = "\"" + words + "\": ";
+        try {
+            test.run();
+        } catch (RuntimeException e) {
+            tell("the test met " + e);
+        }
+        sentence = "";
+    }
+
+    private static void tell(String words) {
+        wrong++;
+        System.out.println(sentence + words);
     }
 
     static int call(int function) {
@@ -26,8 +48,7 @@ final class Check {
 
     static void due(String what, long got, long want) {
         if (got != want) {
-            wrong++;
-            System.out.println(what + " answered " + got + ", due is " + want);
+            tell(what + " answered " + got + ", due is " + want);
         }
     }
 
@@ -43,8 +64,7 @@ final class Check {
             got = e.getClass();
         }
         if (got != want) {
-            wrong++;
-            System.out.println(what + " threw " + got + ", due is " + want);
+            tell(what + " threw " + got + ", due is " + want);
         }
     }
 
@@ -85,6 +105,34 @@ final class Check {
         due(what + ": run", answer, wantAnswer);
         due(what + ": value()", desk.value(), wantValue);
         due(what + ": used()", desk.used(), wantUsed);
+    }
+
+    /** All that an object tells of itself without being changed. */
+    private static List<Integer> state(UnitDesk desk) {
+        List<Integer> state = new ArrayList<>();
+        for (int what = 0; what < 5; what++) {
+            state.add(desk.count(what));
+            for (int f = 0; f < 8; f++) {
+                state.add(desk.look(f, what));
+            }
+        }
+        state.add(desk.value());
+        state.add(desk.used());
+        for (int i = 0; i < desk.size(); i++) {
+            state.add(desk.word(i));
+        }
+        return state;
+    }
+
+    /** For a desk that is built as it stands: texts and signatures are as they were if all units fit still. */
+    static void changesNothing(UnitDesk desk, Runnable calls) {
+        List<Integer> before = state(desk);
+        int functions = desk.count(0) + desk.count(1);
+        int words = desk.size();
+        calls.run();
+        due("the state is as it was", state(desk).equals(before), true);
+        due("build()", desk.build(), words);
+        counts("all texts and signatures are as they were", desk, functions, 0, 0);
     }
 
     static void end() {

@@ -16,16 +16,8 @@ public final class RunTest {
         Check.end();
     }
 
-    private static UnitDesk built(int parameters, int types, boolean bool, int... tokens) {
-        UnitDesk desk = new UnitDesk();
-        desk.sign(0, parameters, types, bool);
-        Check.text(desk, 0, tokens);
-        Check.due("build() > 0", desk.build() > 0, true);
-        return desk;
-    }
-
     private static void sign(int sign, boolean bool, int a, int b, int want) {
-        UnitDesk desk = built(2, 0, bool, sign, 0, 1);
+        UnitDesk desk = Desks.built(2, 0, bool, sign, 0, 1);
         String what = a + " sign " + sign + " " + b;
         Check.outcome(what, desk, desk.run(0, a, b, 99, 1000), 0, want, 4);
     }
@@ -51,17 +43,17 @@ public final class RunTest {
 
     private static void arguments() {
         for (int k = 0; k < 3; k++) {
-            UnitDesk desk = built(3, 0, false, k);
+            UnitDesk desk = Desks.built(3, 0, false, k);
             Check.outcome("argument " + k, desk, desk.run(0, 10, 11, 12, 1000), 0, 10 + k, 2);
         }
-        UnitDesk none = built(0, 0, false, Integer.MAX_VALUE);
+        UnitDesk none = Desks.built(0, 0, false, Integer.MAX_VALUE);
         Check.outcome("no argument", none, none.run(0, 10, 11, 12, 1000), 0, Integer.MAX_VALUE - 100, 2);
-        UnitDesk bool = built(1, 1, true, 0);
+        UnitDesk bool = Desks.built(1, 1, true, 0);
         Check.outcome("an argument is taken as it is", bool, bool.run(0, 5, 0, 0, 1000), 0, 5, 2);
     }
 
     private static void choices() {
-        UnitDesk desk = built(1, 1, false, Check.IF, 0, Check.PLUS, 101, 102, 109);
+        UnitDesk desk = Desks.built(1, 1, false, Check.IF, 0, Check.PLUS, 101, 102, 109);
         Check.outcome("1 chooses the second", desk, desk.run(0, 1, 0, 0, 1000), 0, 3, 7);
         Check.outcome("0 chooses the third", desk, desk.run(0, 0, 0, 0, 1000), 0, 9, 4);
         Check.outcome("all but 0 choose the second", desk, desk.run(0, -4, 0, 0, 1000), 0, 3, 7);
@@ -82,7 +74,7 @@ public final class RunTest {
     }
 
     private static void fuel() {
-        UnitDesk desk = built(2, 0, false, Check.PLUS, 0, 1);
+        UnitDesk desk = Desks.built(2, 0, false, Check.PLUS, 0, 1);
         Check.outcome("just enough", desk, desk.run(0, 3, 4, 0, 4), 0, 7, 4);
         for (int f = 0; f < 4; f++) {
             Check.outcome("fuel " + f, desk, desk.run(0, 3, 4, 0, f), 1, 0, f);
@@ -95,7 +87,7 @@ public final class RunTest {
 
     /** f(n) = IF n < 1 THEN 0 ELSE f(n - 1) + f(n - 1): 14 of fuel for a frame that calls, 7 for one that does not. */
     private static void mostFuel() {
-        UnitDesk desk = built(1, 0, false, Check.IF, Check.LESS, 0, 101, 100,
+        UnitDesk desk = Desks.built(1, 0, false, Check.IF, Check.LESS, 0, 101, 100,
                 Check.PLUS, Check.call(0), Check.MINUS, 0, 101, Check.call(0), Check.MINUS, 0, 101);
         Check.outcome("5 deep", desk, desk.run(0, 5, 0, 0, 1000), 0, 0, 31 * 14 + 32 * 7);
         Check.outcome("5 deep, one too few", desk, desk.run(0, 5, 0, 0, 657), 1, 0, 657);
@@ -107,26 +99,26 @@ public final class RunTest {
 
     /** f(n) = IF n < 1 THEN 7 ELSE f(n - 1): n + 1 frames, 8 of fuel down and 1 up for each but the last's 7. */
     private static void frames() {
-        UnitDesk desk = built(1, 0, false, Check.IF, Check.LESS, 0, 101, 107, Check.call(0), Check.MINUS, 0, 101);
+        UnitDesk desk = Desks.built(1, 0, false, Check.IF, Check.LESS, 0, 101, 107, Check.call(0), Check.MINUS, 0, 101);
         Check.outcome("12 frames", desk, desk.run(0, 11, 0, 0, 1000), 0, 7, 11 * 9 + 7);
         Check.outcome("a frame more", desk, desk.run(0, 12, 0, 0, 1000), 2, 0, 12 * 8);
         Check.outcome("with just that fuel", desk, desk.run(0, 12, 0, 0, 12 * 8), 2, 0, 12 * 8);
         Check.outcome("with less", desk, desk.run(0, 12, 0, 0, 12 * 8 - 1), 1, 0, 12 * 8 - 1);
-        UnitDesk endless = built(0, 0, false, Check.call(0));
+        UnitDesk endless = Desks.built(0, 0, false, Check.call(0));
         Check.outcome("endless", endless, endless.run(0, 0, 0, 0, 1000), 2, 0, 12);
         Check.outcome("endless, 11", endless, endless.run(0, 0, 0, 0, 11), 1, 0, 11);
     }
 
     /** f(n) = 1 + (1 + (1 + (1 + f(n)))): each frame leaves 4 numbers of its own and 1 for the next. */
     private static void numbers() {
-        UnitDesk desk = built(1, 0, false, Check.PLUS, 101, Check.PLUS, 101, Check.PLUS, 101, Check.PLUS, 101,
+        UnitDesk desk = Desks.built(1, 0, false, Check.PLUS, 101, Check.PLUS, 101, Check.PLUS, 101, Check.PLUS, 101,
                 Check.call(0), 0);
         // The first frame has its argument there; each then puts 5 on it: 1 + 7 * 5 = 36, and 4 more are 40.
         int untilFull = 7 * 6 + 4;
         Check.outcome("the 41st number", desk, desk.run(0, 1, 0, 0, 1000), 3, 0, untilFull + 1);
         Check.outcome("with just that fuel", desk, desk.run(0, 1, 0, 0, untilFull + 1), 3, 0, untilFull + 1);
         Check.outcome("with less", desk, desk.run(0, 1, 0, 0, untilFull), 1, 0, untilFull);
-        UnitDesk bare = built(0, 0, false, Check.PLUS, 101, Check.PLUS, 101, Check.PLUS, 101, Check.PLUS, 101,
+        UnitDesk bare = Desks.built(0, 0, false, Check.PLUS, 101, Check.PLUS, 101, Check.PLUS, 101, Check.PLUS, 101,
                 Check.call(0));
         Check.outcome("40 numbers, then another", bare, bare.run(0, 0, 0, 0, 1000), 3, 0, 10 * 5 + 1);
     }
@@ -163,7 +155,7 @@ public final class RunTest {
     }
 
     private static void valueAndUsed() {
-        UnitDesk desk = built(1, 0, false, 0);
+        UnitDesk desk = Desks.built(1, 0, false, 0);
         Check.outcome("first", desk, desk.run(0, 9, 0, 0, 5), 0, 9, 2);
         Check.due("value() again", desk.value(), 9);
         Check.due("used() again", desk.used(), 2);
@@ -180,7 +172,7 @@ public final class RunTest {
     }
 
     private static void notInTheImage() {
-        UnitDesk desk = built(1, 0, false, 0);
+        UnitDesk desk = Desks.built(1, 0, false, 0);
         for (int f : new int[] {-1, 1, 7, 8, Integer.MIN_VALUE, Integer.MAX_VALUE}) {
             Check.dueThrow("run(" + f + ")", NoSuchElementException.class, () -> desk.run(f, 0, 0, 0, 5));
         }

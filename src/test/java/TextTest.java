@@ -2,8 +2,6 @@ import java.util.NoSuchElementException;
 
 /** Promises 1 to 6: a new object, and what signs, drops and writes functions. */
 public final class TextTest {
-    private static final int[] NO_FUNCTIONS = {-1, 8, 100, Integer.MIN_VALUE, Integer.MAX_VALUE};
-
     public static void main(String[] args) {
         newObject();
         signWrong();
@@ -39,7 +37,7 @@ public final class TextTest {
         desk.sign(3, 1, 0, false);
         Check.text(desk, 3, 0);
         Check.due("build", desk.build(), 4);
-        for (int f : NO_FUNCTIONS) {
+        for (int f : Check.NO_FUNCTIONS) {
             Check.dueThrow("sign(" + f + ")", IllegalArgumentException.class, () -> desk.sign(f, 1, 0, false));
         }
         for (int p : new int[] {-1, 4, Integer.MIN_VALUE, Integer.MAX_VALUE}) {
@@ -94,7 +92,7 @@ public final class TextTest {
 
     private static void drop() {
         UnitDesk desk = new UnitDesk();
-        for (int f : NO_FUNCTIONS) {
+        for (int f : Check.NO_FUNCTIONS) {
             Check.dueThrow("drop(" + f + ")", IllegalArgumentException.class, () -> desk.drop(f));
         }
         desk.drop(5);
@@ -121,7 +119,7 @@ public final class TextTest {
 
     private static void token() {
         UnitDesk desk = new UnitDesk();
-        for (int f : NO_FUNCTIONS) {
+        for (int f : Check.NO_FUNCTIONS) {
             Check.dueThrow("token(" + f + ")", IllegalArgumentException.class, () -> { desk.token(f, 0); });
         }
         Check.dueThrow("token, not there", IllegalStateException.class, () -> { desk.token(2, 0); });
@@ -140,7 +138,7 @@ public final class TextTest {
 
     private static void edit() {
         UnitDesk desk = new UnitDesk();
-        for (int f : NO_FUNCTIONS) {
+        for (int f : Check.NO_FUNCTIONS) {
             Check.dueThrow("edit(" + f + ")", IllegalArgumentException.class, () -> desk.edit(f, 0, 0));
         }
         Check.dueThrow("edit, not there", NoSuchElementException.class, () -> desk.edit(6, 0, 0));
@@ -163,7 +161,7 @@ public final class TextTest {
 
     private static void wipe() {
         UnitDesk desk = new UnitDesk();
-        for (int f : NO_FUNCTIONS) {
+        for (int f : Check.NO_FUNCTIONS) {
             Check.dueThrow("wipe(" + f + ")", IllegalArgumentException.class, () -> desk.wipe(f));
         }
         Check.due("wipe, not there", desk.wipe(1), 0);
