@@ -50,7 +50,7 @@ public final class BuildEdgesTest {
         Check.end();
     }
 
-    /** A text of just so many words, 7 to 62, the end's two among them, for a function of one INT and an INT. */
+    /** A text of just so many words, 4 to 62 but for 5, the end's two among them, for a function of one INT and an INT. */
     private static int[] words(int count, int self) {
         int calls = count % 2 == 0 ? (count - 4) / 2 : (count - 7) / 2;
         int[] chain = Desks.times(calls, Check.call(self), 0);
@@ -337,17 +337,24 @@ public final class BuildEdgesTest {
         number(desk, 0, 4, 2, 3);
     }
 
+    /** The last function gives its argument, from the image's last four words. */
     private static void atMost300() {
-        for (int last = 51; last <= 54; last++) {
+        for (int all = 299; all <= 302; all++) {
             UnitDesk desk = new UnitDesk();
             for (int f = 0; f < 4; f++) {
                 addWords(desk, f, 62);
             }
-            addWords(desk, 7, last);
-            int all = 4 * 62 + last;
-            Check.due(all + " words", desk.build(), all <= 300 ? all : -2);
-            Check.due(all + " words", desk.size(), all <= 300 ? all : 0);
-            Check.look(all + " words", desk, 7, 0, -1, 2, 1, all <= 300 ? 248 : -1);
+            addWords(desk, 6, all - 4 * 62 - 4);
+            addWords(desk, 7, 4);
+            boolean linked = all <= 300;
+            Check.due(all + " words", desk.build(), linked ? all : -2);
+            Check.due(all + " words", desk.size(), linked ? all : 0);
+            Check.look(all + " words", desk, 7, 0, -1, 2, 1, linked ? all - 4 : -1);
+            if (linked) {
+                Check.outcome(all + " words", desk, desk.run(7, 5, 0, 0, 9), 0, 5, 2);
+            } else {
+                Check.dueThrow(all + " words", NoSuchElementException.class, () -> desk.run(7, 5, 0, 0, 9));
+            }
         }
     }
 
