@@ -50,7 +50,7 @@ public final class BuildEdgesTest {
         Check.end();
     }
 
-    /** A text of just so many words, 4 to 62 but for 5, the end's two among them, for a function of one INT and an INT. */
+    /** A text of so many words, 4 to 62 but for 5, the end's two among them, for a function of one INT and an INT. */
     private static int[] words(int count, int self) {
         int calls = count % 2 == 0 ? (count - 4) / 2 : (count - 7) / 2;
         int[] chain = Desks.times(calls, Check.call(self), 0);
